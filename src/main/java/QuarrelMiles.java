@@ -32,7 +32,6 @@ public final class QuarrelMiles {
     private static final int BOXES = 3;
     private static final int ROUTE_WAYS = 12;
     private static final int HOME_WAYS = 4;
-    private static final int COVERING = 3;
 
     private static final int ROAD = 60;
     private static final int REPORTS = 30;
@@ -1573,8 +1572,10 @@ public final class QuarrelMiles {
         private final int[] lowest = new int[4];
         private final int[] highest = new int[4];
         private int triedMiles;
-        private final int[] talks = new int[(HOME_WAYS + 1) * TALK];
+        /** Of a row that is walked its WAYS, from where, and how the QUARREL was there. */
         private final int[] homeWays = new int[HOME_WAYS];
+        private final int[] homePlaces = new int[HOME_WAYS];
+        private final int[] talks = new int[HOME_WAYS * TALK];
         private int homeEnd;
         private int homeMost;
         private int homeFound;
@@ -1756,34 +1757,57 @@ public final class QuarrelMiles {
             if (land.ways <= 0) {
                 return 0;
             }
-            for (int count = 1; count <= COVERING; count++) {
-                if (coverBy(0, 0, count)) {
-                    return count;
-                }
+            if (coverByOne() || coverByTwo() || coverByThree()) {
+                return lyingCount;
             }
-            layNothing();
             return NONE;
         }
 
-        /** Lays the first couples, so many, from that one on, that cover what is not covered; calls itself thrice at most. */
-        private boolean coverBy(int first, int covered, int count) {
-            if (count <= 0 || count > COVERING || first < 0) {
+        private boolean coverByOne() {
+            int last = firstCovering(0, 0);
+            if (last == NONE) {
                 return false;
             }
-            int all = (1 << land.ways) - 1;
-            int laid = lyingCount;
-            for (int i = first; i < endingCount && i < COUPLES; i++) {
-                int now = covered | endings[i];
-                if (count == 1 && now != all) {
-                    continue;
-                }
-                lay(couples[i]);
-                if (count == 1 || coverBy(i + 1, now, count - 1)) {
+            lay(couples[last]);
+            return true;
+        }
+
+        private boolean coverByTwo() {
+            for (int i = 0; i < endingCount && i < COUPLES; i++) {
+                int last = firstCovering(i + 1, endings[i]);
+                if (last != NONE) {
+                    lay(couples[i]);
+                    lay(couples[last]);
                     return true;
                 }
-                lyingCount = laid;
             }
             return false;
+        }
+
+        private boolean coverByThree() {
+            for (int i = 0; i < endingCount && i < COUPLES; i++) {
+                for (int j = i + 1; j < endingCount && j < COUPLES; j++) {
+                    int last = firstCovering(j + 1, endings[i] | endings[j]);
+                    if (last != NONE) {
+                        lay(couples[i]);
+                        lay(couples[j]);
+                        lay(couples[last]);
+                        return true;
+                    }
+                }
+            }
+            return false;
+        }
+
+        /** From that one on the first that ends with all the WAYS that are not covered. */
+        private int firstCovering(int from, int covered) {
+            int all = (1 << land.ways) - 1;
+            for (int i = Math.max(0, from); i < endingCount && i < COUPLES; i++) {
+                if ((covered | endings[i]) == all) {
+                    return i;
+                }
+            }
+            return NONE;
         }
 
         int countTurned() {
@@ -1816,30 +1840,50 @@ public final class QuarrelMiles {
             homeFound = 0;
             stroll.talk.begin(couple);
             stroll.talk.put(talks, 0);
-            searchHome(from, 0);
+            searchHome(from);
             return homeFound;
         }
 
-        /** Goes on from a PLACE behind so many WAYS; calls itself as often as a row may have WAYS. */
-        private void searchHome(int place, int depth) {
-            if (depth < 0 || depth >= homeMost || depth >= HOME_WAYS) {
-                return;
-            }
-            for (int way = 0; way < land.ways && way < WAYS; way++) {
-                int end = land.otherEnd(way, place);
-                if (end == NONE) {
-                    continue;
-                }
-                homeWays[depth] = way;
-                stroll.talk.bring(talks, depth * TALK);
-                int mile = walkWay(way, end);
-                if (!stroll.talk.isOver()) {
-                    stroll.talk.put(talks, (depth + 1) * TALK);
-                    searchHome(end, depth + 1);
-                } else if (mile == land.length[way] && end == homeEnd) {
-                    foundHome(depth + 1);
+        /** Goes WAY by WAY through all rows from a PLACE; a row ends where the QUARREL does. */
+        private void searchHome(int from) {
+            int depth = 0;
+            homePlaces[0] = from;
+            homeWays[0] = NONE;
+            for (int i = 0; i < FAR && depth >= 0 && depth < HOME_WAYS; i++) {
+                homeWays[depth]++;
+                if (homeWays[depth] >= land.ways) {
+                    depth--;
+                } else if (goesOn(depth)) {
+                    depth++;
+                    homeWays[depth] = NONE;
                 }
             }
+        }
+
+        /** Walks the last WAY of a row: whether the row may become longer by one WAY. */
+        private boolean goesOn(int depth) {
+            if (depth < 0 || depth >= HOME_WAYS) {
+                return false;
+            }
+            int way = homeWays[depth];
+            int end = land.otherEnd(way, homePlaces[depth]);
+            if (end == NONE) {
+                return false;
+            }
+            stroll.talk.bring(talks, depth * TALK);
+            int mile = walkWay(way, end);
+            if (stroll.talk.isOver()) {
+                if (mile == land.length[way] && end == homeEnd) {
+                    layRow(depth + 1);
+                }
+                return false;
+            }
+            if (depth + 1 >= homeMost || depth + 1 >= HOME_WAYS) {
+                return false;
+            }
+            homePlaces[depth + 1] = end;
+            stroll.talk.put(talks, (depth + 1) * TALK);
+            return true;
         }
 
         /** Behind how many MILES of the WAY the QUARREL ENDED, or how many it has. */
@@ -1854,7 +1898,7 @@ public final class QuarrelMiles {
         }
 
         /** Rows are found WAY by WAY: of as many WAYS the first one found is the first. */
-        private void foundHome(int count) {
+        private void layRow(int count) {
             homeFound++;
             if (homeFound > 1 && count >= lyingCount) {
                 return;
