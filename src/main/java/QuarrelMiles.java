@@ -180,7 +180,7 @@ public final class QuarrelMiles {
     }
 
     public int soul(int soul, int what) {
-        if (soul < 0 || soul >= told.souls || what < 0 || what > 1) {
+        if (!told.isSoul(soul) || what < 0 || what > 1) {
             return NONE;
         }
         return earnest.tempers[2 * soul + what];
@@ -1567,7 +1567,7 @@ public final class QuarrelMiles {
         private final int[] couples = new int[COUPLES];
         private final int[] endings = new int[COUPLES];
         private int endingCount;
-        /** Tempers that are tried, and between which bounds. */
+        /** Tempers that are tried (of two SOULS, the others' are not looked at), and between which bounds. */
         private final int[] tried = new int[2 * SOULS];
         private final int[] lowest = new int[4];
         private final int[] highest = new int[4];
@@ -1926,9 +1926,6 @@ public final class QuarrelMiles {
 
         /** A temper that no formula asks for is never worth a change. */
         private void setBounds(int couple) {
-            for (int i = 0; i < tried.length && i < tempers.length; i++) {
-                tried[i] = tempers[i];
-            }
             for (int i = 0; i < 4; i++) {
                 int known = i % 2 == 0 ? KNOWN_STUBBORN : KNOWN_SHORT;
                 boolean isAsked = land.heatRule.asksFor(known) || land.backRule.asksFor(known);

@@ -12,6 +12,7 @@ public final class LandTextTest {
         limits();
         ends();
         landing();
+        anew();
         told();
         Checks.close();
     }
@@ -372,6 +373,43 @@ public final class LandTextTest {
         Checks.due("quarrel of nothing", x.quarrel(0, 1, 0), -2);
         Checks.due("units of nothing", x.about(12), 0);
         Checks.due("draw of nothing", x.about(4), 0);
+    }
+
+    /** What a land does not tell is not left there by the one ahead of it. */
+    private static void anew() {
+        Checks.part("a land behind another one");
+        String places = "place a;place b;way a to b 2;";
+        String people = "soul p stubborn 0 short 0;soul q stubborn 0 short 0;matter m burns 50 of 1 1;";
+        QuarrelMiles x = Checks.land("place a calm 5 echo 6;place b calm 7 echo 8;way a to b 2 sight 9;" + people
+            + "heat 7;back 1;draw 77;");
+        Checks.put(x, places + people);
+        Checks.due("land", x.land(), 2);
+        Checks.due("draw", x.about(4), 0);
+        Checks.due("units", x.about(12), 0);
+        x.setOut(0, 1, 0, 0);
+        x.take(0);
+        Checks.due("words", x.words(1), 1);
+        Checks.due("heat", x.walk(4), 49);
+        Checks.due("griefs", x.walk(5), 1);
+        Checks.due("words", x.words(1), 1);
+        Checks.due("heat", x.walk(4), 48);
+        Checks.due("ended", x.walk(6), 1);
+        Checks.put(x, "soul p stubborn 0 short 0;");
+        x.land();
+        Checks.due("ways", x.way(0, 0), -1);
+        Checks.due("souls", x.soul(1, 0), -1);
+        Checks.due("quarrel", x.quarrel(0, 1, 0), -2);
+        Checks.due("start", x.start(0), -1);
+        // A land that was tried and had a fault leaves nothing, either.
+        Checks.put(x, "soul a stubborn 7 short 7;heat 5;draw 5;@");
+        Checks.due("land", x.land(), -1);
+        Checks.due("units", x.about(12), 0);
+        Checks.due("draw", x.about(4), 0);
+        Checks.due("stubborn", x.soul(0, 0), 0);
+        Checks.put(x, places + people);
+        x.land();
+        Checks.due("draw", x.about(4), 0);
+        Checks.due("quarrel", x.quarrel(0, 1, 0), 2);
     }
 
     private static void told() {

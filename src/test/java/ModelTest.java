@@ -131,7 +131,9 @@ public final class ModelTest {
                 same("step(" + way + ")", x.step(way), m.step(way), text, seed);
             }
         }
-        if ((call == 27 || call == 26 || call == 23) && !luck.oneIn(6)) {
+        // What the model is slow at is asked less often, in large lands.
+        boolean isSlow = call == 27 || (call == 26 || call == 23) && m.about(1) > 6;
+        if (isSlow && !luck.oneIn(6)) {
             call = 20;
         }
         long got;

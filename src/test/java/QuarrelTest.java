@@ -167,7 +167,7 @@ public final class QuarrelTest {
         x = Checks.land(two + "heat 0;");
         Checks.due("loud of 0", x.loud(0, 1, 0, 0), 0);
         Checks.due("loud word of 0", x.loud(0, 1, 0, 1), 1);
-        x = Checks.land(two + "heat 1 + (mile = 200) + (mile > 200);back 1;");
+        x = Checks.land(two + "heat 1 + (mile = 200) + (mile > 200) * 9;back 1;");
         Checks.due("loud at the 200th", x.loud(0, 1, 0, 0), 2);
         Checks.due("loud word at the 200th", x.loud(0, 1, 0, 1), 200);
     }

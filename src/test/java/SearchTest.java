@@ -10,8 +10,10 @@ public final class SearchTest {
         adds();
         fair();
         cover();
+        coverAgain();
         turned();
         home();
+        homeRound();
         temper();
         bounds();
         lies();
@@ -224,6 +226,50 @@ public final class SearchTest {
         x = Checks.land("place a;place b calm 2;way b to a 3;way b to a 5;" + SOULS + matters);
         Checks.due("cover away from calm", x.cover(), 2);
         Checks.lying("cover away from calm", x, 11, 13);
+    }
+
+    private static void coverAgain() {
+        Checks.part("promise 25 again");
+        String people = "soul p stubborn 0 short 0;soul q stubborn 1 short 1;matter m burns 9 of 1 1 1 1 1;draw 1;";
+        QuarrelMiles x = Checks.land("place a;place b;way a to b 1;way b to a 2;heat stubborn;" + people);
+        // p ends at its first word, so it is one mile with p first and two with q first.
+        Checks.due("cover", x.cover(), 2);
+        Checks.lying("cover", x, 10, 100);
+        // 208 is a year of p, who is more stubborn then: nobody ends any more.
+        Checks.due("year", x.year(), 0);
+        Checks.due("cover a year later", x.cover(), -1);
+        Checks.lying("cover a year later", x);
+        x.undo();
+        Checks.due("cover as ahead of it", x.cover(), 2);
+        Checks.lying("cover as ahead of it", x, 10, 100);
+        Checks.put(x, "place a;place b;way a to b 1;" + people);
+        x.land();
+        Checks.due("cover in another land", x.cover(), -1);
+    }
+
+    /** A triangle, its ways 1, 2 and 3 miles long. */
+    private static void homeRound() {
+        Checks.part("promise 28, a triangle");
+        QuarrelMiles x = Checks.land("place a;place b;place c;place d;way a to b 1;way b to c 2;way c to a 3;" + SOULS
+            + "matter m burns 6 of 1 1 1 1 1 1 1;matter n burns 4 of 1 1 1 1 1 1 1;");
+        // Six miles from a to a: 0 1 2, 2 1 0, 2 2, 0 1 1 0; the first of the fewest ways is 2 2.
+        Checks.due("round", x.home(0, 1, 0, 0, 0, 4), 4);
+        Checks.lying("round", x, 2, 2);
+        Checks.due("round by three", x.home(0, 1, 0, 0, 0, 3), 3);
+        Checks.due("round by one", x.home(0, 1, 0, 0, 0, 1), 0);
+        // Four miles from a: 0 0 0 0 to a, and no others (way 2 leads to c, and from there none is one mile).
+        Checks.due("to a", x.home(0, 1, 1, 0, 0, 4), 1);
+        Checks.lying("to a", x, 0, 0, 0, 0);
+        Checks.due("to b", x.home(0, 1, 1, 0, 1, 4), 0);
+        Checks.lying("to b", x);
+        // Four miles from b: 1 1 to b, 0 2 to c, 0 0 1 to c, 0 0 0 0 to b.
+        Checks.due("b to b", x.home(0, 1, 1, 1, 1, 4), 2);
+        Checks.lying("b to b", x, 1, 1);
+        Checks.due("b to c", x.home(0, 1, 1, 1, 2, 4), 2);
+        Checks.lying("b to c", x, 0, 2);
+        Checks.due("b to a", x.home(0, 1, 1, 1, 0, 4), 0);
+        Checks.due("to where no way leads", x.home(0, 1, 0, 0, 3, 4), 0);
+        Checks.due("from where no way leads", x.home(0, 1, 0, 3, 0, 4), 0);
     }
 
     private static void turned() {
