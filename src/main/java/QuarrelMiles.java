@@ -1855,7 +1855,6 @@ public final class QuarrelMiles {
                     depth--;
                 } else if (goesOn(depth)) {
                     depth++;
-                    homeWays[depth] = NONE;
                 }
             }
         }
@@ -1870,9 +1869,14 @@ public final class QuarrelMiles {
             if (end == NONE) {
                 return false;
             }
-            stroll.talk.bring(talks, depth * TALK);
-            int mile = walkWay(way, end);
-            if (stroll.talk.isOver()) {
+            Talk talk = stroll.talk;
+            talk.bring(talks, depth * TALK);
+            int mile = 0;
+            while (mile < land.length[way] && !talk.isOver()) {
+                mile++;
+                talk.sayOnWay(tempers, way, mile, end);
+            }
+            if (talk.isOver()) {
                 if (mile == land.length[way] && end == homeEnd) {
                     layRow(depth + 1);
                 }
@@ -1882,19 +1886,9 @@ public final class QuarrelMiles {
                 return false;
             }
             homePlaces[depth + 1] = end;
-            stroll.talk.put(talks, (depth + 1) * TALK);
+            homeWays[depth + 1] = NONE;
+            talk.put(talks, (depth + 1) * TALK);
             return true;
-        }
-
-        /** Behind how many MILES of the WAY the QUARREL ENDED, or how many it has. */
-        private int walkWay(int way, int end) {
-            Talk talk = stroll.talk;
-            int mile = 0;
-            while (mile < land.length[way] && !talk.isOver()) {
-                mile++;
-                talk.sayOnWay(tempers, way, mile, end);
-            }
-            return mile;
         }
 
         /** Rows are found WAY by WAY: of as many WAYS the first one found is the first. */
