@@ -80,6 +80,11 @@ public final class QuarrelTest {
         answer("10 + (not not 3 = 3 and not 1 > 2 or 0)", 11);
         answer("(7)", 7);
         answer("((7) + (1)) * 2", 16);
+        // All 30 units, and as much as can be waiting for what is behind it.
+        String wait = "0 or 1 and 2 > 1 - 1 * ";
+        answer((wait + "(").repeat(4) + wait + "1" + ")".repeat(4), 1);
+        answer("1" + " + 1".repeat(29), 30);
+        answer("not not not not not not not 0 and not not not not not not not 1", 0);
     }
 
     private static void known() {
