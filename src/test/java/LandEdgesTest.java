@@ -166,6 +166,25 @@ public final class LandEdgesTest {
         }
     }
 
+    /** The first n bytes of a text have that FAULT at their end. */
+    private static void cut(String text, int n) {
+        QuarrelMiles x = new QuarrelMiles();
+        Checks.put(x, text);
+        Checks.due("end(" + n + ") of " + text, x.end(n), n);
+        Checks.due("land() of " + n + " of " + text, x.land(), -1);
+        Checks.due("its fault", x.fault(0), 2);
+        Checks.due("its place", x.fault(1), n);
+    }
+
+    static void promise03EndCutsWhatStoodBehind() {
+        // What is cut is no letter behind a number, no ninth letter, no fifth digit.
+        cut("place a calm 1echo 2;", 14);
+        cut("place abcdefghi;", 14);
+        cut("heat 12345;", 9);
+        cut("place a;", 7);
+        cut("place a \n;", 9);
+    }
+
     // ==== Promise 4: land
 
     static void promise04LandOfNothingIsEmpty() {
@@ -268,7 +287,32 @@ public final class LandEdgesTest {
         Checks.due("untell(1)", x.untell(1), false);
         Checks.due("miles(8)", x.miles(8), Edges.ALL_ROADS);
         Checks.due("report", x.report(0, 1, 0, 0), 0);
+        Checks.due("untell(1) behind one report", x.untell(1), false);
         Checks.lying("land()", x);
+    }
+
+    /** The places of what was told ahead are used again. */
+    static void promise04LandLeavesNothingOfTheOneAhead() {
+        String people = Edges.TWO + "matter m burns 50 of 1 1;";
+        QuarrelMiles x = new QuarrelMiles();
+        land(x, "place a calm 9 echo 9;place b calm 9 echo 9;way a to b 1 sight 9;" + Edges.TWO + "matter m burns 9 of 9 9 9;"
+            + "heat 77;back 7;draw 7;");
+        land(x, AB + "way a to b 1;" + people);
+        Checks.due("seed", x.about(4), 0);
+        Checks.due("units", x.about(12), 0);
+        Checks.due("quarrel", x.quarrel(0, 1, 0), 2);
+        Checks.due("heat", x.heat(0, 1, 0, 1), 49);
+        x.setOut(0, 1, 0, 0);
+        x.take(0);
+        x.words(1);
+        Checks.due("heat behind a way", x.walk(4), 49);
+        Checks.due("griefs behind a way", x.walk(5), 1);
+        // A text that has a fault is tried as well.
+        land(x, "place a calm 9 echo 9;heat 77;back 7;draw 7;@");
+        land(x, AB + "way a to b 1;" + people);
+        Checks.due("seed behind a fault", x.about(4), 0);
+        Checks.due("units behind a fault", x.about(12), 0);
+        Checks.due("heat behind a fault", x.heat(0, 1, 0, 1), 49);
     }
 
     static void promise04LandHasEmptyBoxes() {
@@ -588,6 +632,21 @@ public final class LandEdgesTest {
             Edges.fault(2, "heat not 1 = 2 ^" + sign + " 3;");
             Edges.fault(2, "heat (1 > 2 ^" + sign + " 3);");
             Edges.fine("heat (1 < 2) " + sign + " (3 > 4);");
+        }
+    }
+
+    static void promise05Faults2FormulaThatEndsEarly() {
+        for (String rule : new String[] {"heat", "back"}) {
+            Edges.fault(2, rule + " ^;");
+            Edges.fault(2, rule + " 1 + ^;");
+            Edges.fault(2, rule + " not ^;");
+            Edges.fault(2, rule + " (^);");
+            Edges.fault(2, rule + " (1^;");
+            Edges.fault(2, rule + " 1^);");
+            Edges.fault(2, rule + " 1 < ^;");
+            Edges.fault(2, rule + " 1 and ^;");
+            Edges.fault(2, rule + " 1 ^1;");
+            Edges.fault(2, rule + " ^- 1;");
         }
     }
 

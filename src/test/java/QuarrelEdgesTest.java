@@ -253,6 +253,25 @@ public final class QuarrelEdgesTest {
         }
     }
 
+    /** As much as can be waiting for what is behind it: by 30 units, four brackets and three nots. */
+    static void promise09FormulasOf30UnitsThatWait() {
+        String wait = "0 or 1 and 2 > 1 - 1 * ";
+        String waitWithNot = "0 or 1 and not 2 < 1 - 1 * ";
+        comes((waitWithNot + "(").repeat(3) + wait + "(" + wait + "1" + ")".repeat(4), 1);
+        comes("(".repeat(7) + "1" + "+1".repeat(22) + ")".repeat(7), 23);
+        comes("1" + "+1".repeat(29), 30);
+        comes("99" + "-1".repeat(29), 70);
+        comes("1" + "*1".repeat(28) + "*7", 7);
+    }
+
+    static void promise09FormulasOf30UnitsWith7NotsEach() {
+        String nots = "not ".repeat(7);
+        comes(nots + "1" + (" or " + nots + "1").repeat(29), 0);
+        comes(nots + "1" + (" or " + nots + "1").repeat(28) + " or " + nots + "0", 1);
+        comes(nots + "0" + (" and " + nots + "0").repeat(29), 1);
+        comes(nots + "0" + (" and " + nots + "0").repeat(28) + " and " + nots + "1", 0);
+    }
+
     static void promise09BackIsAGriefIfMoreThan0() {
         for (String none : new String[] {"0", "0 - 1", "0 - 9999", "8192 * 8192 * 32"}) {
             Checks.due("back " + none, Checks.land(Edges.TWO + "matter m burns 99 of 1;back " + none + ";").quarrel(0, 1, 0), 1);
@@ -505,6 +524,20 @@ public final class QuarrelEdgesTest {
         atTheEnd("sight 0", AB, " sight 0", "heat 0;", 0, 1);
     }
 
+    /** On a way, not at its end, where a calm of 0 would mend it. */
+    static void promise12SightIsAddedWithin0And99OnAWay() {
+        QuarrelMiles x = Checks.land(AB + "way a to b 2 sight -9;way a to b 2 sight 9;" + Edges.TWO
+            + "matter m burns 8 of 1 1 1;matter n burns 99 of 1 1 1;heat heat;");
+        x.setOut(0, 1, 0, 0);
+        x.take(0);
+        Checks.due("words(2)", x.words(2), 1);
+        walk("sight -9", x, 0, 0, 1, 1, 0, 2, 1);
+        x.setOut(0, 1, 1, 0);
+        x.take(1);
+        x.words(1);
+        walk("sight 9", x, 0, 1, 1, 1, 99, 2, 0);
+    }
+
     static void promise12SightIsOfEachMile() {
         QuarrelMiles x = Checks.land(AB + "way a to b 3 sight 5;" + Edges.lengths(50));
         x.setOut(0, 1, 0, 1);
@@ -716,6 +749,58 @@ public final class QuarrelEdgesTest {
         Checks.due("undo", x.undo(), false);
         Checks.due("acts", x.about(5), 0);
         Checks.due("redone", x.about(6), 5);
+    }
+
+    private static final String UNLIKE = "place a;place b;way a to b 9;soul p stubborn 1 short 1;soul q stubborn 2 short 2;"
+        + "soul r stubborn 3 short 3;matter m burns 9 of 1 2 3 4;matter n burns 9 of 8 7 6 5 9;heat 10 * stubborn + grief;";
+
+    /** One went on with other things, and was taken back: it goes on as the other one does. */
+    private static void alike(String call, QuarrelMiles x, QuarrelMiles y) {
+        for (int i = 0; i < 5; i++) {
+            for (int what = 0; what < 7; what++) {
+                Checks.due("walk(" + what + ") behind " + call + " and " + i, x.walk(what), y.walk(what));
+            }
+            Checks.due("words(1) behind " + call, x.words(1), y.words(1));
+        }
+    }
+
+    static void promise15UndoBringsBackWhoWalked() {
+        for (int words = 0; words <= 3; words++) {
+            QuarrelMiles x = Checks.land(UNLIKE);
+            QuarrelMiles y = Checks.land(UNLIKE);
+            x.setOut(0, 1, 0, 0);
+            y.setOut(0, 1, 0, 0);
+            x.take(0);
+            y.take(0);
+            x.words(words);
+            y.words(words);
+            x.setOut(2, 0, 1, 1);
+            x.take(0);
+            x.words(5);
+            x.undo();
+            x.undo();
+            x.undo();
+            alike("undo of setOut behind " + words, x, y);
+        }
+    }
+
+    static void promise16RedoBringsBackWhoWalked() {
+        QuarrelMiles x = Checks.land(UNLIKE);
+        QuarrelMiles y = Checks.land(UNLIKE);
+        x.setOut(0, 1, 0, 0);
+        x.setOut(2, 0, 1, 1);
+        y.setOut(2, 0, 1, 1);
+        x.take(0);
+        y.take(0);
+        x.words(1);
+        y.words(1);
+        x.undo();
+        x.undo();
+        x.undo();
+        x.redo();
+        x.redo();
+        x.redo();
+        alike("redo", x, y);
     }
 
     private static QuarrelMiles years(int years) {

@@ -312,6 +312,33 @@ public final class SearchEdgesTest {
         Checks.lying("14 ways of a length", x, 15);
     }
 
+    /** All 180 end a mile, the last one alone two miles, too. */
+    static void promise25CoverByTheLastCouple() {
+        String people = Edges.lines("soul", " stubborn 1 short 1", 4) + "soul e stubborn 3 short 1;soul f stubborn 2 short 1;"
+            + Edges.lines("matter", " burns 9 of 1", 5) + "matter f burns 5 of 1;"
+            + "heat 9 - (stubborn = 2 and heat = 5) - 9 * (stubborn = 3 and heat = 8);back 1;";
+        QuarrelMiles x = Checks.land(AB + "way a to b 1 sight -9;" + people);
+        Checks.due("who ends a mile", x.send(0, 1), 180);
+        Checks.due("cover of a mile", x.cover(), 1);
+        Checks.lying("cover of a mile", x, 10);
+        x = Checks.land(AB + "way a to b 1 sight -9;way a to b 2;" + people);
+        Checks.due("cover of two miles, too", x.cover(), 1);
+        Checks.lying("cover of two miles, too", x, 545);
+    }
+
+    static void promise25CoverOneBehindTheOther() {
+        QuarrelMiles x = Checks.land(AB + "way a to b 1;way b to a 2;heat stubborn;soul p stubborn 0 short 0;soul q stubborn 1 short 1;"
+            + "matter m burns 9 of 1 1 1 1 1;draw 1;");
+        Checks.due("cover", x.cover(), 2);
+        Checks.lying("cover", x, 10, 100);
+        x.year();
+        Checks.due("cover behind a year", x.cover(), -1);
+        Checks.lying("cover behind a year", x);
+        x.undo();
+        Checks.due("cover again", x.cover(), 2);
+        Checks.lying("cover again", x, 10, 100);
+    }
+
     static void promise25CoverBy4IsNone() {
         for (String ways : new String[] {"1 2 3 4", "1 2 3 7", "7", "1 2 3 4 5 6", "1 1 1 1 1 1 1 1 1 1 1 1 1 7"}) {
             Edges.findsNothing("cover() of " + ways, x -> {
@@ -486,6 +513,20 @@ public final class SearchEdgesTest {
         Checks.lying("three miles round", x, 0, 2);
     }
 
+    static void promise28HomeOneBehindTheOther() {
+        String text = AB + "way a to b 1;way b to a 1;way a to b 2;way b to a 2;" + Edges.lengths(4, 3, 5);
+        int[][] calls = {{0, 0, 0, 4}, {1, 0, 1, 3}, {2, 1, 0, 4}, {0, 1, 1, 2}, {1, 1, 1, 1}, {0, 0, 0, 4}};
+        QuarrelMiles x = Checks.land(text);
+        for (int[] c : calls) {
+            QuarrelMiles y = Checks.land(text);
+            Checks.due(call("home by", c), x.home(0, 1, c[0], c[1], c[2], c[3]), y.home(0, 1, c[0], c[1], c[2], c[3]));
+            Checks.due("numbers behind " + call("home by", c), x.about(13), y.about(13));
+            for (int i = 0; i < 4; i++) {
+                Checks.due("lies(" + i + ") behind " + call("home by", c), x.lies(i), y.lies(i));
+            }
+        }
+    }
+
     static void promise28HomeAllThereCanBe() {
         QuarrelMiles x = Checks.land(AB + Edges.times("way a to b 1;", 14) + Edges.lengths(4));
         Checks.due("home", x.home(0, 1, 0, 1, 1, 4), 14 * 14 * 14 * 14);
@@ -543,9 +584,35 @@ public final class SearchEdgesTest {
             Checks.due("temper as it is", x.temper(0, 1, 0, 2), 0);
             Checks.lying("temper as it is", x, e);
         }
-        // None is below 0 or above 9.
-        QuarrelMiles x = temper(0, 0, 9, 9, "heat stubborn < 10 and short < 10;");
-        Checks.due("temper of 10", x.temper(0, 1, 0, 1), -1);
+    }
+
+    /** Each of the four alone would do with 10, or with one less than 0. */
+    static void promise29TemperNoneBelow0OrAbove9() {
+        for (String unit : new String[] {"stubborn", "short"}) {
+            for (int miles = 1; miles <= 2; miles++) {
+                QuarrelMiles x = temper(9, 9, 9, 9, "heat not (mile = " + miles + " and " + unit + " = 10);");
+                Checks.due(unit + " of 10", x.temper(0, 1, 0, miles), -1);
+                Checks.lying(unit + " of 10", x);
+                x = temper(9, 9, 9, 9, "heat not (mile = " + miles + " and " + unit + " > 8);");
+                Checks.due(unit + " of 9", x.temper(0, 1, 0, miles), 0);
+                x = temper(0, 0, 0, 0, "heat not (mile = " + miles + " and " + unit + " < 0);");
+                Checks.due(unit + " below 0", x.temper(0, 1, 0, miles), -1);
+                Checks.lying(unit + " below 0", x);
+                x = temper(0, 0, 0, 0, "heat not (mile = " + miles + " and " + unit + " < 1);");
+                Checks.due(unit + " of 0", x.temper(0, 1, 0, miles), 0);
+            }
+        }
+    }
+
+    static void promise29TemperOfTheFirstAndTheLastSouls() {
+        QuarrelMiles x = Checks.land(Edges.lines("soul", " stubborn 1 short 1", 5) + "soul f stubborn 5 short 5;"
+            + Edges.lines("matter", " burns 9 of 1", 6) + "heat not (mile = 2 and stubborn = 7 and short = 2);back 1;");
+        Checks.due("temper of f and e", x.temper(5, 4, 5, 2), 7);
+        Checks.lying("temper of f and e", x, 5, 5, 7, 2);
+        Checks.due("temper of e and f", x.temper(4, 5, 5, 2), 5);
+        Checks.lying("temper of e and f", x, 1, 1, 7, 2);
+        Checks.due("temper of a and f", x.temper(0, 5, 0, 2), 5);
+        Checks.lying("temper of a and f", x, 1, 1, 7, 2);
     }
 
     static void promise29TemperTheFewestChanges() {
