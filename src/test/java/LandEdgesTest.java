@@ -650,6 +650,21 @@ public final class LandEdgesTest {
         }
     }
 
+    /** What stood open in a formula that had a fault does not stand open in the next one. */
+    static void promise05FaultsInAFormulaLeaveNothing() {
+        String[] broken = {"heat " + Edges.times("(", 7) + "1 + @", "heat " + Edges.times("not ", 7) + "1 < @",
+            "back 1 or 2 and not 3 < 4 - 5 * (6;", "heat 1" + Edges.times("+1", 30) + ";", "heat (not (1 = 2 = 3));"};
+        for (String text : broken) {
+            QuarrelMiles x = new QuarrelMiles();
+            land(x, text);
+            Checks.due("fault of " + text, x.fault(0) > 0, true);
+            land(x, Edges.TWO + "matter m burns 50 of 1 1;heat (2) + 3 * 4;back " + Edges.times("(", 7) + "1" + Edges.times(")", 7) + ";");
+            Checks.due("fault behind " + text, x.fault(0), 0);
+            Checks.due("units behind " + text, x.about(12), 12);
+            Checks.due("heat behind " + text, x.heat(0, 1, 0, 1), 14);
+        }
+    }
+
     static void promise05FaultsTheEndIsTheTextsLength() {
         Edges.fault(2, "place a^");
         Edges.fault(2, "place a \n ^");

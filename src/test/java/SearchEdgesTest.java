@@ -604,6 +604,20 @@ public final class SearchEdgesTest {
         }
     }
 
+    /** A temper that one formula asks for, whatever the other one does. */
+    static void promise29TemperThatOneFormulaAsksFor() {
+        String people = "soul p stubborn 5 short 5;soul q stubborn 5 short 5;matter m burns 9 of 1 1 1;";
+        String[] rules = {"heat stubborn;", "heat short;", "back stubborn;", "back short;"};
+        int[] lengths = {1, 1, 3, 3};
+        int[] changes = {5, 5, 10, 10};
+        int[][] due = {{0, 5, 5, 5}, {5, 0, 5, 5}, {0, 5, 0, 5}, {5, 0, 5, 0}};
+        for (int i = 0; i < rules.length; i++) {
+            QuarrelMiles x = Checks.land(people + rules[i]);
+            Checks.due("temper by " + rules[i], x.temper(0, 1, 0, lengths[i]), changes[i]);
+            Checks.lying("temper by " + rules[i], x, due[i]);
+        }
+    }
+
     static void promise29TemperOfTheFirstAndTheLastSouls() {
         QuarrelMiles x = Checks.land(Edges.lines("soul", " stubborn 1 short 1", 5) + "soul f stubborn 5 short 5;"
             + Edges.lines("matter", " burns 9 of 1", 6) + "heat not (mile = 2 and stubborn = 7 and short = 2);back 1;");
