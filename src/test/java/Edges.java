@@ -207,4 +207,50 @@ final class Edges {
         }
         told.add("undone: " + tellEarnest(x));
     }
+
+    /** What is found by numbers that there are and by some that there are not; before is done on eight objects. */
+    static List<String> searches(Act before) {
+        List<String> told = new ArrayList<>();
+        for (int a = 0; a < 8; a++) {
+            QuarrelMiles x = after(before);
+            told.add("soul " + x.soul(a, 0) + ", " + x.soul(a, 1) + "; way " + x.way(a, 0) + ", " + x.way(a, 2));
+            for (int b = 0; b < 8; b++) {
+                told.add("shortest " + x.shortest(a, b) + " by " + x.lies(0) + ", " + x.lies(1) + "; send " + x.send(a, b));
+                told.add("home " + x.home(0, 1, 0, a, b, 4) + " by " + x.lies(0) + ", " + x.lies(1) + ", " + x.lies(2));
+                told.add("adds " + x.adds(a, b) + "; measure " + x.measure(0, 1, a, b, false) + ", " + x.measure(0, a, b, 0, true));
+                told.add("quarrel " + x.quarrel(a, b, 0) + ", " + x.quarrel(0, a, b) + "; temper " + x.temper(a, b, 0, 2));
+            }
+            told.add("fair " + x.fair() + "; cover " + x.cover() + "; turned " + x.turned() + "; ask " + x.ask(0, 0) + ", " + x.ask(1, 0));
+            told.add("year " + x.year() + "; " + x.soul(0, 0) + x.soul(0, 1) + x.soul(1, 0) + x.soul(1, 1));
+            told.add("step " + x.step(a) + "; walked " + x.walked(0, 1, 0, 0) + "; loud " + x.loud(0, 1, 0, 0) + "; heat " + x.heat(0, 1, 0, 1));
+            told.add("report " + x.report(0, 1, 0, 2) + "; miles " + x.miles(9));
+            told.add("set out " + x.setOut(0, 1, 0, a) + "; take " + x.take(0) + "; words " + x.words(9) + "; " + x.walk(4) + x.walk(5));
+        }
+        return told;
+    }
+
+    /** The call is answered by tempers as they are now: as if these had been told, and not always as by those that were. */
+    static void byTempersNow(String call, Call asked) {
+        byTempersNow(call, "place a calm 1;place b echo 1;place c;way a to b 3;way b to c 2 sight 1;way a to c 6;way c to b 1;", asked);
+    }
+
+    static void byTempersNow(String call, String ways, Call asked) {
+        boolean isUnlike = false;
+        QuarrelMiles x = Checks.land(ways + tempered(1, 1, 1, 1));
+        long first = asked.on(x);
+        for (int year = 1; year <= 12; year++) {
+            x.year();
+            QuarrelMiles y = Checks.land(ways + tempered(x.soul(0, 0), x.soul(0, 1), x.soul(1, 0), x.soul(1, 1)));
+            long answer = asked.on(x);
+            Checks.due(call + " behind " + year + " years", answer, asked.on(y));
+            isUnlike = isUnlike || answer != first;
+        }
+        Checks.due(call + " becomes another one", isUnlike, true);
+    }
+
+    private static String tempered(int stubborn, int shortness, int otherStubborn, int otherShortness) {
+        return "soul p stubborn " + stubborn + " short " + shortness + ";soul q stubborn " + otherStubborn + " short " + otherShortness
+            + ";matter m burns 9 of 1 2;matter n burns 5 of 3;matter o burns 12 of 1 1 4 2;"
+            + "heat heat - stubborn + grief % 2;back left < short;draw 3;";
+    }
 }

@@ -245,6 +245,22 @@ public final class LandEdgesTest {
         Edges.land(x, text);
     }
 
+    static void promise04LandWithFaultLeavesAllThatIsFound() {
+        String other = Edges.lines("place", " calm 1 echo 2", 8) + "way a to c 1;way c to b 1 sight 3;way a to b 1;"
+            + Edges.lines("soul", " stubborn 4 short 5", 6) + Edges.lines("matter", " burns 3 of 1 2", 6)
+            + "heat heat - stubborn;back short;draw 5;";
+        for (String text : new String[] {other + "@", "place a;@", "@", AB + "way b to a 40;" + Edges.TWO + "matter m burns 1 of 1;draw 1000;"}) {
+            Edges.same("searches behind [" + text + "]", Edges.searches(x -> {
+                land(x, Checks.BASE);
+                x.start(0);
+                land(x, text);
+            }), Edges.searches(x -> {
+                land(x, Checks.BASE);
+                x.start(0);
+            }));
+        }
+    }
+
     static void promise04LandBeginsAnewButForTheTime() {
         QuarrelMiles x = Edges.after(Edges::busy);
         land(x, Checks.BASE + "draw 1;");
@@ -313,6 +329,19 @@ public final class LandEdgesTest {
         Checks.due("seed behind a fault", x.about(4), 0);
         Checks.due("units behind a fault", x.about(12), 0);
         Checks.due("heat behind a fault", x.heat(0, 1, 0, 1), 49);
+    }
+
+    static void promise04LandLeavesNothingOfALargerOne() {
+        String large = Edges.lines("place", " calm 1 echo 2", 8) + "way a to c 1;way c to b 1 sight 3;way a to b 1;"
+            + Edges.times("way c to a 1;", 11) + Edges.lines("soul", " stubborn 4 short 5", 6)
+            + Edges.lines("matter", " burns 3 of 1 2", 6) + "heat heat - stubborn;back short;draw 5;";
+        for (String small : new String[] {"place a;place b;place c;way a to b 2;way b to c 3;" + Edges.TWO + "matter m burns 2 of 1 1 1;",
+            AB + Edges.TWO + "matter m burns 2 of 1;", "place a;place b;place c;way b to c 1;", ""}) {
+            Edges.same("[" + small + "] behind a larger one", Edges.searches(x -> {
+                land(x, large);
+                land(x, small);
+            }), Edges.searches(x -> land(x, small)));
+        }
     }
 
     static void promise04LandHasEmptyBoxes() {
@@ -643,6 +672,9 @@ public final class LandEdgesTest {
             Edges.fault(2, rule + " (^);");
             Edges.fault(2, rule + " (1^;");
             Edges.fault(2, rule + " 1^);");
+            Edges.fault(2, rule + " 1 + 2^);");
+            Edges.fault(2, rule + " not 1^);");
+            Edges.fault(2, rule + " not 1 < 2 * (3)^);");
             Edges.fault(2, rule + " 1 < ^;");
             Edges.fault(2, rule + " 1 and ^;");
             Edges.fault(2, rule + " 1 ^1;");
@@ -662,6 +694,20 @@ public final class LandEdgesTest {
             Checks.due("fault behind " + text, x.fault(0), 0);
             Checks.due("units behind " + text, x.about(12), 12);
             Checks.due("heat behind " + text, x.heat(0, 1, 0, 1), 14);
+        }
+    }
+
+    static void promise05FaultsInAFormulaLeaveNoOperator() {
+        // What waited for its right side when the fault came must not wait in the next formula.
+        for (String waiting : new String[] {"1 <", "1 >", "1 =", "not", "not 1 <", "1 or 2 and not 3 = 4 + 5 *", "(1 < (2 >"}) {
+            for (String sound : new String[] {"mile < 2", "mile > 1", "1 = 1", "not mile < 2", "(mile < 2) + (1 < mile)"}) {
+                QuarrelMiles x = new QuarrelMiles();
+                land(x, "heat " + waiting + " @;");
+                Checks.due("fault of " + waiting, x.fault(0), 1);
+                land(x, Edges.TWO + "matter m burns 50 of 1 1;heat " + sound + ";");
+                Checks.due("fault of " + sound + " behind " + waiting, x.fault(0), 0);
+                Checks.due("heat by " + sound, x.heat(0, 1, 0, 1), "mile > 1".equals(sound) || sound.startsWith("not") ? 0 : 1);
+            }
         }
     }
 

@@ -174,6 +174,11 @@ public final class QuarrelEdgesTest {
         Checks.due("told", Checks.land(Edges.TWO + "matter m burns 99 of 1 1 1;heat 0;").heat(0, 1, 0, 1), 0);
     }
 
+    static void promise09HeatIsByTempersAsTheyAreNow() {
+        Edges.byTempersNow("heat", x -> x.heat(0, 1, 2, 2));
+        Edges.byTempersNow("heat of the other", x -> x.heat(1, 0, 2, 1));
+    }
+
     static void promise09FormulasCutAndRest() {
         comes("7 / 2", 3);
         comes("(0 - 7) / 2 + 10", 7);
@@ -1057,6 +1062,19 @@ public final class QuarrelEdgesTest {
             }
             boolean isOn = words <= 480;
             walked(words + " words", x, 0, isOn ? words : -1, isOn ? (words - 1) / 40 : -1, isOn ? (words - 1) % 40 + 1 : -1, isOn ? 0 : 1);
+        }
+    }
+
+    static void promise19WalkedIsByTempersAsTheyAreNow() {
+        for (int what = 0; what <= 3; what++) {
+            int asked = what;
+            Edges.byTempersNow("walked what " + what, x -> {
+                x.start(0);
+                x.step(0);
+                x.step(1);
+                x.step(2);
+                return x.walked(0, 1, 0, asked);
+            });
         }
     }
 

@@ -618,6 +618,23 @@ public final class SearchEdgesTest {
         }
     }
 
+    static void promise29TemperThatOneOfTheFourMustHave() {
+        // The second word is answered only by one temper of one of them; the other three are as low as can be, or as high.
+        String[] rules = {"mile = 1 and stubborn = 4", "mile = 1 and short = 4", "mile = 2 and stubborn = 4", "mile = 2 and short = 4"};
+        for (int low = 0; low <= 9; low += 9) {
+            for (int i = 0; i < 4; i++) {
+                QuarrelMiles x = Checks.land(Edges.lines("soul", " stubborn " + low + " short " + low, 2)
+                    + "matter m burns 9 of 1;back " + rules[i] + (i < 2 ? ";" : " or mile < 2;"));
+                int[] due = {low, low, low, low};
+                due[i] = 4;
+                int miles = i < 2 ? 2 : 3;
+                Checks.due("temper by " + rules[i], x.temper(0, 1, 0, miles), Math.abs(low - 4));
+                Checks.lying("temper by " + rules[i], x, due);
+                Checks.due("temper by " + rules[i], x.temper(0, 1, 0, miles - 1), 0);
+            }
+        }
+    }
+
     static void promise29TemperOfTheFirstAndTheLastSouls() {
         QuarrelMiles x = Checks.land(Edges.lines("soul", " stubborn 1 short 1", 5) + "soul f stubborn 5 short 5;"
             + Edges.lines("matter", " burns 9 of 1", 6) + "heat not (mile = 2 and stubborn = 7 and short = 2);back 1;");
@@ -725,6 +742,18 @@ public final class SearchEdgesTest {
     }
 
     // ==== "Nothing is done"
+
+    static void promise21To29AreByTempersAsTheyAreNow() {
+        Edges.byTempersNow("send", x -> 1000 * x.send(1, 2) + 100 * x.lies(0) + 10 * x.lies(1) + x.lies(2));
+        Edges.byTempersNow("measure", x -> x.measure(0, 1, 0, 2, false));
+        Edges.byTempersNow("measure back", x -> x.measure(1, 0, 0, 2, true));
+        Edges.byTempersNow("adds", x -> x.adds(0, 1));
+        Edges.byTempersNow("cover", AB + "way a to b 3;", x -> 1000 * x.cover() + x.lies(0));
+        Edges.byTempersNow("turned", QuarrelMiles::turned);
+        Edges.byTempersNow("loud", x -> 1000 * x.loud(0, 1, 2, 0) + x.loud(0, 1, 2, 1));
+        Edges.byTempersNow("home", x -> x.home(0, 1, 0, 0, 1, 4));
+        Edges.byTempersNow("temper", x -> x.temper(0, 1, 2, 5));
+    }
 
     static void promise20To29DoNothingButLay() {
         Edges.Call[] searches = {x -> x.shortest(0, 2), x -> x.send(0, 1), QuarrelMiles::cover, x -> x.home(0, 1, 0, 1, 0, 4),
