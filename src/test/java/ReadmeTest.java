@@ -29,7 +29,7 @@ public final class ReadmeTest {
         } finally {
             remove(copy);
         }
-        lines(readme, Files.readString(root.resolve("src/example/java/Example.java")));
+        lines(readme, Files.readString(root.resolve("src/test/java/Example.java")));
         table(readme, root.resolve("src/test/java"));
         Checks.due(ALL_TESTS + " can be run", Files.isExecutable(root.resolve(ALL_TESTS)), true);
         Checks.close();
